@@ -1019,16 +1019,17 @@ public final class SealedModule {
 
         /** HMAC; out may be the key or the data, as it is written last. */
         void mac(byte[] key, int length, byte[] data, int at, int n, byte[] out, int to) {
-            beginPadded(key, length, INNER_PAD);
+            begin();
+            takePadded(key, length, INNER_PAD);
             take(data, at, n);
             end(inner, 0);
-            beginPadded(key, length, OUTER_PAD);
+            begin();
+            takePadded(key, length, OUTER_PAD);
             take(inner, 0, DIGEST);
             end(out, to);
         }
 
-        private void beginPadded(byte[] key, int length, int pad) {
-            begin();
+        private void takePadded(byte[] key, int length, int pad) {
             for (int i = 0; i < BLOCK_BYTES; i++) {
                 int value = i < length ? key[i] & 255 : 0;
                 schedule[i >> 2] = schedule[i >> 2] << 8 | value ^ pad;
