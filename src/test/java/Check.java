@@ -1,8 +1,30 @@
 import java.util.Arrays;
 
-/** Counts the answers that are not as due, and brings modules to where a test begins. */
+/** Counts the sentences of the document that hold, and brings modules to where a test begins. */
 final class Check {
+    static final int LOWEST = Integer.MIN_VALUE;
+    static final int HIGHEST = Integer.MAX_VALUE;
+
     private int wrong = 0;
+    private int passed = 0;
+    private int failed = 0;
+    private String sentence = "";
+
+    /** Runs the test of one sentence; each answer in it that is not as due breaks the sentence. */
+    void holds(String words, Runnable test) {
+        int before = wrong;
+        sentence = words;
+        try {
+            test.run();
+        } catch (RuntimeException | AssertionError e) {
+            tell("the test was ended by " + e);
+        }
+        if (wrong == before) {
+            passed++;
+        } else {
+            failed++;
+        }
+    }
 
     void due(String what, long got, long want) {
         if (got != want) {
@@ -18,6 +40,13 @@ final class Check {
         if (!Arrays.equals(got, want)) {
             tell(what + " answered " + hex(got) + ", due is " + hex(want));
         }
+    }
+
+    /** The whole buffer is as it was before, but for what stands from a place on now. */
+    void dueBuffer(String what, Counted x, byte[] before, int at, byte[] now) {
+        byte[] want = before.clone();
+        System.arraycopy(now, 0, want, at, now.length);
+        dueBytes(what, get(x, 0, 512), want);
     }
 
     void throwing(String what, Class<? extends RuntimeException> kind, Runnable call) {
@@ -42,70 +71,118 @@ final class Check {
 
     private void tell(String text) {
         wrong++;
-        System.out.println(text);
+        System.out.println("\"" + sentence + "\": " + text);
     }
 
     void finish() {
-        System.out.println(wrong == 0 ? "all answers are as due" : wrong + " answers are not as due");
-        if (wrong != 0) {
+        System.out.println(passed + " passed, " + failed + " failed");
+        if (failed != 0 || passed == 0) {
             System.exit(1);
         }
     }
 
-    static SealedModule ready() {
-        SealedModule x = new SealedModule();
+    static Counted testing() {
+        Counted x = new Counted();
         x.power(true);
+        return x;
+    }
+
+    static Counted ready() {
+        Counted x = testing();
         x.selfTestStep(10);
         return x;
     }
 
-    static SealedModule officer() {
-        SealedModule x = ready();
+    static Counted officer() {
+        Counted x = ready();
         x.login(1, 1111);
         return x;
     }
 
-    static SealedModule user() {
-        SealedModule x = ready();
+    static Counted user() {
+        Counted x = ready();
         x.login(2, 2222);
         return x;
     }
 
-    static SealedModule inError() {
-        SealedModule x = new SealedModule();
-        x.power(true);
+    static Counted inError() {
+        Counted x = testing();
         x.fault(0);
         x.selfTestStep(1);
         return x;
     }
 
-    /** The other role takes over; the pins have to be the first ones. */
-    static void change(SealedModule x, int role) {
-        x.logout();
-        x.login(role, role == 1 ? 1111 : 2222);
-    }
-
-    static void put(SealedModule x, int at, byte[] bytes) {
-        for (int i = 0; i < bytes.length; i++) {
-            x.poke(at + i, bytes[i], 1);
+    static Counted inState(int state) {
+        switch (state) {
+            case 0:
+                return new Counted();
+            case 1:
+                return testing();
+            case 2:
+                return ready();
+            case 3:
+                return officer();
+            case 4:
+                return user();
+            default:
+                return inError();
         }
     }
 
-    static byte[] get(SealedModule x, int at, int n) {
+    /** A module brought to a state without what it holds being lost; its pins are the first ones. */
+    static void bring(Counted x, int state) {
+        if (state == 0) {
+            x.power(false);
+            return;
+        }
+        x.power(true);
+        if (state == 5) {
+            x.fault(0);
+        }
+        if (state != 1) {
+            x.selfTestStep(10);
+        }
+        if (state == 3 || state == 4) {
+            x.login(state - 2, 1111 * (state - 2));
+        }
+    }
+
+    /** The other role takes over; the pins have to be the first ones. */
+    static void change(Counted x, int role) {
+        x.logout();
+        x.login(role, 1111 * role);
+    }
+
+    static void put(Counted x, int at, byte[] bytes) {
+        for (int i = 0; i < bytes.length; i += 8) {
+            int n = Math.min(8, bytes.length - i);
+            long value = 0;
+            for (int k = 0; k < n; k++) {
+                value = value << 8 | bytes[i + k] & 255;
+            }
+            x.poke(at + i, value, n);
+        }
+    }
+
+    static byte[] get(Counted x, int at, int n) {
         byte[] out = new byte[n];
-        for (int i = 0; i < n; i++) {
+        for (int i = 0; i < n; i += 8) {
             int place = Math.min(at + i, 504);
-            out[i] = (byte) (x.peek(place) >>> 56 - 8 * (at + i - place));
+            long value = x.peek(place);
+            for (int k = i; k < n && at + k < place + 8; k++) {
+                out[k] = (byte) (value >>> 56 - 8 * (at + k - place));
+            }
         }
         return out;
     }
 
-    static void feed(SealedModule x, int from, int count) {
+    static void feed(Counted x, int from, int count) {
         for (int i = 0; i < count; i++) {
             x.entropy(word(from + i));
         }
     }
 
+    /** Words that are all different, with all four bytes in use. */
     static int word(int i) {
         return 0x9e3779b1 * (i + 1);
     }
