@@ -20,6 +20,7 @@ public final class GeneratorTest {
         C.holds("(slot not looked at)", GeneratorTest::slot);
         C.holds("m bytes (0 .. 64) at the buffer's beginning are additional input.", GeneratorTest::additionalInput);
         C.holds("m bytes (0 .. 64): no others", GeneratorTest::wrongInput);
+        C.holds("make(): from the generator.", GeneratorTest::keyOfGenerator);
         C.holds("Promise 16: Makes a key of n bytes: 0", GeneratorTest::make);
         C.holds("Promise 16: or a refusal.", GeneratorTest::makeRefusals);
         C.finish();
@@ -248,6 +249,21 @@ public final class GeneratorTest {
             C.due("m " + m + " with no bytes", x.run(11, 0, 0, 0, m), -2);
         }
         C.due("m 64 with no bytes", withWords(12).run(11, 0, 0, 0, 64), 0);
+    }
+
+    private static void keyOfGenerator() {
+        Counted x = withWords(12);
+        Reference.Drbg drbg = drbg();
+        Check.put(x, 0, Check.bytes(64, 5));
+        for (int slot = 0; slot < 3; slot++) {
+            C.due("make", x.make(slot, 2, 0, 1, 0, 64), 0);
+        }
+        C.due("the buffer is no part of it", x.same(0, 64), false);
+        for (int slot = 0; slot < 3; slot++) {
+            Check.put(x, 0, drbg.next(64, NONE));
+            C.due("key " + slot, x.same(slot, 64), true);
+        }
+        dueNext("the request behind them", x, drbg);
     }
 
     private static void make() {

@@ -207,6 +207,13 @@ public final class PinsTest {
             x.login(2, 5);
             x.login(2, 5);
             C.due("two tries behind setPin, " + tries + " before", x.login(2, 2222), 0);
+            Check.change(x, 1);
+            x.setPin(2, 2222);
+            x.logout();
+            for (int i = 0; i < 3; i++) {
+                x.login(2, 5);
+            }
+            C.due("three lock again", x.login(2, 2222), -10);
         }
         Counted x = Check.ready();
         for (int i = 0; i < 3; i++) {

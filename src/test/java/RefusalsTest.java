@@ -22,7 +22,10 @@ public final class RefusalsTest {
         C.holds("-2 .. usage 0 .. 63", RefusalsTest::numbersOfUsage);
         C.holds("-2 .. role", RefusalsTest::numbersOfRoles);
         C.holds("-2 .. uses", RefusalsTest::numbersOfUses);
+        C.holds("-2 .. pin", RefusalsTest::numbersOfPins);
         C.holds("-2 .. a key's length 1 .. 64", RefusalsTest::lengthsOfKeys);
+        C.holds("-2 .. other lengths as told with the call", RefusalsTest::otherLengths);
+        C.holds("-2 .. a place", RefusalsTest::places);
         C.holds("-3 the role's holder is needed (officer for setPin, load, make", RefusalsTest::officerIsNeeded);
         C.holds("the role of a slot that is not empty for all that uses or zeroises it)", RefusalsTest::holderIsNeeded);
         C.holds("-4 a slot is empty", RefusalsTest::emptySlots);
@@ -398,6 +401,60 @@ public final class RefusalsTest {
             C.due("uses", x.slotInfo(i, 4), right[i]);
             C.due("uses", x.slotInfo(8 + i, 4), right[i]);
         }
+    }
+
+    private static void numbersOfPins() {
+        Counted x = Check.officer();
+        int[] wrong = {-1, 1000000, Check.LOWEST, Check.HIGHEST};
+        for (int pin : wrong) {
+            C.due("setPin to " + pin, x.setPin(2, pin), -2);
+            C.due("login with " + pin + " is a wrong pin only", Check.ready().login(2, pin), -10);
+        }
+        C.due("setPin to 0", x.setPin(2, 0), 0);
+        C.due("setPin to 999999", x.setPin(2, 999999), 0);
+    }
+
+    private static void otherLengths() {
+        Counted x = withKeys();
+        Check.feed(x, 0, 12);
+        x.hash(0, 0, 0);
+        int[] labels = {-1, 65};
+        for (int m : labels) {
+            C.due("derive with " + m, x.derive(EMPTY, 1, 2, 0, 8, m), -2);
+            C.due("GCM seal with " + m, x.run(6, 0, 0, 200, m), -2);
+            C.due("GCM open with " + m, x.run(7, 0, 0, 200, m), -2);
+            C.due("generator with " + m, x.run(11, 0, 0, 8, m), -2);
+        }
+        int[] wrapped = {16, 23, 25, 79, 81, 88};
+        for (int n : wrapped) {
+            C.due("unwrap of " + n, x.unwrap(EMPTY, 0, n), -2);
+        }
+        int[][] services = {
+            {1, 15}, {1, 17}, {2, 15}, {2, 17}, {3, 0}, {3, 15}, {3, 17}, {4, 0}, {4, 15}, {4, 17}, {5, 15}, {6, 11}, {7, 27},
+            {8, -1}, {8, 513}, {9, -1}, {9, 513}, {11, -1}, {11, 257},
+        };
+        for (int[] r : services) {
+            C.due("service " + r[0] + " of " + r[1], x.run(r[0], 0, 0, r[1], 0), -2);
+        }
+        C.due("HMAC of -1", x.run(10, 1, 0, -1, 0), -2);
+        C.due("HMAC of 513", x.run(10, 1, 0, 513, 0), -2);
+        C.due("take of -1", x.hash(1, 0, -1), -2);
+        C.due("take of 513", x.hash(1, 0, 513), -2);
+    }
+
+    private static void places() {
+        Counted x = withKeys();
+        Check.feed(x, 0, 12);
+        x.hash(0, 0, 0);
+        int[] wrong = {-1, 465, 512, 513, Check.LOWEST, Check.HIGHEST, Check.HIGHEST - 47};
+        for (int at : wrong) {
+            for (int service = 1; service <= 11; service++) {
+                C.due("service " + service + " at " + at, x.run(service, kindOf(service) - 1, at, 48, 0), -2);
+            }
+            C.due("take at " + at, x.hash(1, at, 48), -2);
+        }
+        C.due("digest at -1", x.hash(2, -1, 0), -2);
+        C.due("digest at 481", x.hash(2, 481, 0), -2);
     }
 
     private static void lengthsOfKeys() {

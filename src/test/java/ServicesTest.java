@@ -22,6 +22,7 @@ public final class ServicesTest {
         C.holds("6 GCM, seal: 12 bytes of nonce, m bytes of header .. then the text", ServicesTest::gcm);
         C.holds("(m 0 .. 64)", ServicesTest::headersOfGcm);
         C.holds("n is 12 + m + text", ServicesTest::shortestOfGcmSeal);
+        C.holds("16 bytes of tag come behind", ServicesTest::tagBehind);
         C.holds("(the answer n + 16, which has to be in the buffer)", ServicesTest::tagInBuffer);
         C.holds("7 GCM, open: .. n at least 28 + m", ServicesTest::shortestOfGcmOpen);
         C.holds("when the tag is right, the text is in its place and the answer n - 16", ServicesTest::gcmOpens);
@@ -312,6 +313,17 @@ public final class ServicesTest {
         }
         int[][] rows = {{6, 0, 0, 0, -2}, {6, 0, -1, 0, -2}, {6, 0, 12, 64, -2}, {6, 0, 64, 64, -2}};
         runRows(rows);
+    }
+
+    private static void tagBehind() {
+        int[] sizes = {12, 13, 28, 76, 100};
+        for (int n : sizes) {
+            Counted x = withKeys(16);
+            C.due("seal of " + n, x.run(6, 0, 3, n, 0), n + 16);
+            byte[] sealed = sealed(16, 3, 0, n);
+            C.dueBytes("the tag", Check.get(x, 3 + n, 16), Arrays.copyOfRange(sealed, n - 12, n + 4));
+            C.dueBytes("what stands behind it", Check.get(x, 19 + n, 16), filling(19 + n, 35 + n));
+        }
     }
 
     private static void tagInBuffer() {

@@ -4,6 +4,7 @@ public final class StatesTest {
 
     public static void main(String[] args) {
         C.holds("An object is used for at most 512 calls after it has been made", StatesTest::lastCall);
+        C.holds("a state of error that only .. switching leave", StatesTest::errorStays);
         C.holds("0 OFF, 1 TESTING, 2 READY, 3 OFFICER (logged in, role 1), 4 USER (role 2), 5 ERROR.",
                 StatesTest::numbersOfStates);
         C.holds("power(true) (in each state): testing", StatesTest::powerOnInEachState);
@@ -54,6 +55,33 @@ public final class StatesTest {
         C.dueBytes("all that was taken in", Check.get(x, 0, 32), Reference.sha(Check.join(pieces)));
         C.due("the 512th call", x.counter(0), takes + 3);
         C.due("calls left", x.callsLeft(), 0);
+    }
+
+    private static void errorStays() {
+        Counted x = Check.inError();
+        x.selfTestStep(10);
+        x.fault(1);
+        x.poke(0, 1, 1);
+        x.peek(0);
+        x.login(1, 1111);
+        x.setPin(1, 1111);
+        x.entropy(1);
+        x.slotInfo(0, 0);
+        x.zeroise(0);
+        x.zeroiseAll();
+        x.load(0, 2, 0, 1, 0, 1);
+        x.make(0, 2, 0, 1, 0, 1);
+        x.derive(0, 1, 2, 0, 1, 0);
+        x.wrap(0, 1);
+        x.unwrap(0, 1, 24);
+        x.run(9, 0, 0, 0, 0);
+        x.hash(0, 0, 0);
+        x.counter(0);
+        x.same(0, 1);
+        C.illegalState("logout", x::logout);
+        C.due("behind all other calls", x.state(), 5);
+        C.due("switched on", x.power(true), 1);
+        C.due("switched off", Check.inError().power(false), 0);
     }
 
     private static void numbersOfStates() {

@@ -75,6 +75,11 @@ public final class ZeroiseAllTest {
             x.login(role, 1);
             x.login(role, 1);
             C.due("two tries behind it", x.login(role, 1111 * role), 0);
+            x.zeroiseAll();
+            for (int i = 0; i < 3; i++) {
+                x.login(role, 1);
+            }
+            C.due("three lock again", x.login(role, 1111 * role), -10);
         }
     }
 
