@@ -270,9 +270,13 @@ public final class StatesTest {
         x.fault(6);
         C.due("the tests before it", x.selfTestStep(4), 6);
         C.due("still testing", x.state(), 1);
-        C.due("it fails", x.selfTestStep(6), -1);
+        C.due("the first of two with a fault", x.selfTestStep(1), -1);
         C.due("error", x.state(), 5);
-        C.due("the one behind it was not done", x.counter(2), 1);
+        Counted y = Check.testing();
+        y.fault(4);
+        y.fault(6);
+        C.due("one step over both", y.selfTestStep(10), -1);
+        C.due("the one behind it was not done", y.counter(2), 1);
     }
 
     private static void readyWhenAllAreDone() {

@@ -230,7 +230,8 @@ public final class WrapTest {
     private static void usesWithoutLimit() {
         int[] uses = {1, 1000000, -1};
         for (int number : uses) {
-            Counted x = withOuter(16);
+            Counted x = Check.officer();
+            x.load(0, 1, 16, 1, 9, 16);
             x.load(1, 2, 36, 1, number, 8);
             x.wrap(1, 0);
             x.unwrap(2, 0, 24);
